@@ -206,12 +206,11 @@ public final class HouseClaps {
             return NONE;
         }
         int law = 2 * now.house.kinds[s] + what;
-        int ones = now.house.told[law];
-        if (ones == NONE) {
+        if (now.house.told[law] == NONE) {
             return NONE;
         }
         trials.night.beAs(record, record.reach(t));
-        return trials.night.joined(law * ONES, ones, 1L << s, 1) != 0 ? 1 : 0;
+        return trials.night.doesHold(law, s) ? 1 : 0;
     }
 
     public int stands(int s) {
@@ -1250,6 +1249,10 @@ public final class HouseClaps {
             heldHigh = record.heldHigh[m];
         }
 
+        boolean doesHold(int law, int s) {
+            return joined(law * ONES, house.told[law], 1L << s, 1) != 0L;
+        }
+
         void begin(long paidOnes, long hissingOnes) {
             paid = paidOnes;
             hissing = hissingOnes;
@@ -1365,7 +1368,7 @@ public final class HouseClaps {
         }
 
         /** Those of some SEATS for whom these ONES hold as they are joined; none, if there are no ONES. */
-        long joined(int first, int size, long who, int depth) {
+        private long joined(int first, int size, long who, int depth) {
             if (who == 0L || size <= 0 || depth > WITHIN) {
                 return 0L;
             }

@@ -45,12 +45,15 @@ public final class PlainTest {
     }
 
     private boolean step(int i) throws Exception {
-        int what = i == 0 ? 0 : random.nextInt(30);
-        if (what == 0 || what == 1 && random.nextBoolean()) {
-            return text(houseText(), 900) && call("house") && call("fault");
+        int what = i == 0 ? 0 : random.nextInt(32);
+        if (what == 0) {
+            boolean alike = text(houseText(), 900, i == 0 ? 10 : random.nextInt(10)) && call("house") && call("fault");
+            columns = Math.max(1, real.count(1));
+            cells = real.count(0) * real.count(1);
+            return alike;
         }
         if (what == 1 || what == 2) {
-            return text(cueText(), 400) && call("cues") && call("fault");
+            return text(cueText(), 400, random.nextInt(10)) && call("cues") && call("fault");
         }
         if (what == 3) {
             return someSeats() && (random.nextInt(3) > 0 ? call("cheapest") && call("bought") : call("hush"));
@@ -67,13 +70,16 @@ public final class PlainTest {
         if (what == 7 || what == 8) {
             return sketch() && call("beganAt", 0) && call("beganAt", 1);
         }
+        if (what == 9 && random.nextInt(2) == 0) {
+            return any(SLOW);
+        }
         if (what < 12) {
-            return any(random.nextInt(30) == 0 ? SLOW : SMALL);
+            return any(SMALL);
         }
         return any(COMMON);
     }
 
-    private static final String[] SLOW = {"exchanged", "arrange", "leader"};
+    private static final String[] SLOW = {"exchanged", "exchanged", "arrange", "leader"};
     private static final String[] SMALL = {"exchange", "drawn", "image", "restore", "arranged", "starts", "parts",
         "bought", "side", "beganAt", "worthOf", "end", "fault"};
     private static final String[] COMMON = {"seat", "law", "pay", "pay", "hiss", "cue", "sees", "at", "at", "many", "would",
@@ -154,9 +160,8 @@ public final class PlainTest {
         return call("end", bytes.length);
     }
 
-    private boolean text(String good, int limit) throws Exception {
+    private boolean text(String good, int limit, int kind) throws Exception {
         String text = good;
-        int kind = random.nextInt(10);
         if (kind < 3) {
             text = harmed(good);
         }
@@ -198,8 +203,8 @@ public final class PlainTest {
         StringBuilder text = new StringBuilder();
         boolean large = random.nextInt(12) == 0;
         int rows = large ? 1 + random.nextInt(8) : 1 + random.nextInt(4);
-        columns = large ? 1 + random.nextInt(8) : 1 + random.nextInt(4);
-        cells = rows * columns;
+        int columns = large ? 1 + random.nextInt(8) : 1 + random.nextInt(4);
+        int cells = rows * columns;
         int kinds = 1 + random.nextInt(random.nextInt(4) == 0 ? 6 : 3);
         for (int r = 0; r < rows; r++) {
             text.append("row ");
@@ -225,7 +230,7 @@ public final class PlainTest {
             }
         }
         if (random.nextInt(5) > 0) {
-            text.append("carry ").append(1 + random.nextInt(Math.min(64, cells + 1))).append(blank(";"));
+            text.append("carry ").append(1 + random.nextInt(Math.min(64, random.nextInt(3) == 0 ? cells + 1 : 5))).append(blank(";"));
         }
         if (random.nextInt(4) == 0) {
             text.append("paid ").append(random.nextInt(5) == 0 ? 600 - random.nextInt(3) : moment()).append(blank(";"));
@@ -260,8 +265,8 @@ public final class PlainTest {
         if (depth > 0 && kind == 1) {
             return "(" + cond(depth - 1) + ")";
         }
-        String sign = new String[] {"<", "=", ">"}[random.nextInt(3)];
-        String number = String.valueOf(random.nextInt(4));
+        String sign = new String[] {"<", "=", ">", ">", ">"}[random.nextInt(5)];
+        String number = String.valueOf(random.nextInt(random.nextInt(2) == 0 ? 1 : 4));
         if (kind == 2) {
             return (random.nextBoolean() ? "self" : "held") + blank(sign) + number;
         }
@@ -272,12 +277,18 @@ public final class PlainTest {
         StringBuilder text = new StringBuilder();
         int t = 0;
         int cues = random.nextInt(20) == 0 ? 32 : random.nextInt(6);
+        List<Integer> seats = new ArrayList<>();
+        for (int s = 0; s < cells; s++) {
+            if (random.nextInt(20) == 0 || real.sees(s, 0, 0, 1) != HouseClaps.NONE) {
+                seats.add(s);
+            }
+        }
         for (int i = 0; i < cues; i++) {
             t = Math.min(600, t + (random.nextInt(20) == 0 ? random.nextInt(300) : random.nextInt(cues > 30 ? 2 : 6)));
             String deed = new String[] {"pay", "hiss", "free", "still"}[random.nextInt(4)];
             text.append("at ").append(t).append(' ').append(deed);
             if (!deed.equals("still")) {
-                int s = random.nextInt(Math.max(1, cells));
+                int s = seats.isEmpty() ? 0 : seats.get(random.nextInt(seats.size()));
                 text.append(' ').append(s / columns).append(' ').append(s % columns);
             }
             text.append(blank(";"));
