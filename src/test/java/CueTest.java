@@ -86,6 +86,12 @@ public final class CueTest {
         levels("in order", x, 1, 0, 0);
         stage.cues("at 0 hiss 0 1;at 0 pay 0 1;");
         levels("in order, too", x, 1, 2, 2);
+        x.hiss(0, 0);
+        stage.cues("at 1 still;at 2 still;at 3 still;at 4 still;at 5 still;at 6 still;");
+        levels("alike for long, and yet not for good", x, 0, 0, 0, 0, 0, 0, 0, 0, 1, 2);
+        stage.cues("at 0 still;".repeat(29) + "at 9 hiss 0 0;");
+        levels("thirty of them", x, 0, 0, 1, 2, 2, 2, 2, 2, 2, 2, 0, 0);
+        stage.cues("at 0 hiss 0 1;at 0 pay 0 1;");
         Stage.due("who is PAID ahead of CUES", x.count(6), 0);
         Stage.due("HELD in moment 0", x.at(1, 0, 1), 0);
     }

@@ -34,6 +34,11 @@ public final class HandsTest {
         Stage.due("bought besides", x.bought(), 4);
         Stage.due("one that is PAID is bought once", stage.tape(3, 5).x.cheapest(), 8);
         Stage.due("and not in the set", x.bought(), 2);
+        x.pay(3, 0);
+        x.pay(0, 1);
+        Stage.due("also of seat 0", stage.tape(2).x.cheapest(), 20);
+        x.pay(0, 0);
+        x.pay(3, 1);
         x.pay(5, 1);
         Stage.due("carries without", stage.tape(0).x.cheapest(), 8);
         Stage.due("the empty set", x.bought(), 0);
@@ -85,10 +90,14 @@ public final class HandsTest {
         Stage.due("does not carry anyway", stage.tape(0, 1).x.hush(), 0);
         x.pay(0, 1);
         Stage.due("the one beside", stage.tape(3, 1, 2).x.hush(), 2);
+        Stage.due("of like ones the least set", stage.tape(2, 0, 1).x.hush(), 2);
         Stage.due("the PAID one", stage.tape(3, 2, 0).x.hush(), 4);
         Stage.due("no set", stage.tape(2, 3).x.hush(), -1);
         x.pay(3, 1);
         Stage.due("two of them", stage.tape(0, 1, 2).x.hush(), 5);
+        stage.house("row aaa;up a beside 2 > 0;carry 2;");
+        x.pay(1, 1);
+        Stage.due("one ahead of a lesser two", stage.tape(0, 2, 1).x.hush(), 4);
         stage.house("row aaaa;up a beside 2 > 0;carry 3;");
         x.pay(0, 1);
         x.pay(3, 1);

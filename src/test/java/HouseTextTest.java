@@ -60,6 +60,9 @@ public final class HouseTextTest {
         Stage.dueFault("row 1a;", 1, 4);
         Stage.dueFault("row1 a;", 1, 0);
         Stage.dueFault("  foo", 1, 2);
+        Stage.dueFault("now a;", 1, 0);
+        Stage.dueFault("ro a;", 1, 0);
+        Stage.dueFault("rowss;", 1, 0);
         Stage.dueFault("12", 1, 0);
         Stage.dueFault("row a", 1, 5);
         Stage.dueFault("row a  ", 1, 7);
@@ -74,6 +77,7 @@ public final class HouseTextTest {
         Stage.dueFault("row 1;", 1, 4);
         Stage.dueFault("row ag;", 2, 4);
         Stage.dueFault("row row;", 2, 4);
+        Stage.dueFault("row az;", 2, 4);
         Stage.dueFault("row abcdefaba;", 1, 4);
         Stage.dueFault("row ab;row a;", 2, 11);
         Stage.dueFault("row ab;row abc;", 2, 11);

@@ -80,6 +80,11 @@ public final class KindsTest {
         x.hiss(0, 1);
         Stage.due("one who HISSES", x.starts(0), 0);
         Stage.due("PAID stays", x.count(6), 0);
+        stage.house("row aa;");
+        stage.cues("at 60 pay 0 1;");
+        Stage.due("up to moment 60", x.starts(0), 2);
+        stage.cues("at 61 pay 0 1;");
+        Stage.due("not in moment 61", x.starts(0), 1);
     }
 
     private static void leader() {
@@ -123,7 +128,10 @@ public final class KindsTest {
                 }
             }
         }
+        x.drawn(8, 5);
+        Stage.due("all stand", x.many(0, 2), 8);
         x.drawn(3, 5);
+        Stage.due("three stand", x.many(0, 2), 3);
         Stage.due("none", x.drawn(0, 5), false);
         Stage.due("-1", x.drawn(-1, 5), false);
         Stage.due("9 of 8", x.drawn(9, 5), false);

@@ -2,7 +2,10 @@
 public final class NightTest {
     public static void main(String[] args) {
         sees();
+        seesEach();
         signsAndJoins();
+        ownLevelAndHeld();
+        deepest();
         upAheadOfDown();
         held();
         rowByRow();
@@ -50,6 +53,32 @@ public final class NightTest {
         Stage.due("claps are not LEVEL 2", claps.x.sees(1, 1, 5, 2), 0);
     }
 
+    /** Each seat of 5 rows of 6, with three pillars, and who perceives it if it alone stands. */
+    private static void seesEach() {
+        String cells = "aaaaxa" + "aaxaaa" + "aaaaaa" + "xaaaaa" + "aaaaaa";
+        int columns = 6;
+        Stage stage = new Stage();
+        for (int t = 0; t < cells.length(); t++) {
+            if (cells.charAt(t) == 'x') {
+                continue;
+            }
+            stage.house("row aaaaxa;row aaxaaa;row aaaaaa;row xaaaaa;row aaaaaa;");
+            stage.x.pay(t, 1);
+            for (int s = 0; s < cells.length(); s++) {
+                if (cells.charAt(s) != 'x') {
+                    int down = t / columns - s / columns;
+                    int away = Math.abs(t % columns - s % columns);
+                    boolean clear = s >= columns && cells.charAt(s - columns) != 'x';
+                    boolean[] due = {s != t && Math.abs(down) < 2 && away < 2, down == -1 && away == 0, down == 0 && away == 1,
+                        down == 1 && away == 0, clear && down < 0 && down > -4 && away <= -down, s != t};
+                    for (int area = 0; area < 6; area++) {
+                        Stage.due(s + " perceives " + t + " in area " + area, stage.x.sees(s, 0, area, 1), due[area] ? 1 : 0);
+                    }
+                }
+            }
+        }
+    }
+
     /** In moment 1 seat 0 claps, if the law holds for one still seat beside two that stand. */
     private static void holds(String cond, int due) {
         Stage stage = Stage.of("row abc;up a " + cond + ";");
@@ -91,6 +120,48 @@ public final class NightTest {
         holds("not self = 1 and self = 0", 1);
         holds("not (self = 1 or self = 0)", 0);
         holds("not self = 0 or self = 0", 1);
+    }
+
+    /** A PAID seat has LEVEL 2 and is HELD t moments. */
+    private static void ownLevelAndHeld() {
+        for (int n = 0; n < 5; n++) {
+            Stage stage = Stage.of("row abc;up a self < " + n + ";down a self = " + n + ";up b held < " + n
+                + ";down b held = " + n + ";down c self > " + n + ";");
+            stage.x.pay(0, 1);
+            Stage.due("2 < " + n, stage.x.would(0, 5, 0), 2 < n ? 1 : 0);
+            Stage.due("2 = " + n, stage.x.would(0, 5, 1), 2 == n ? 1 : 0);
+            Stage.due("0 > " + n, stage.x.would(2, 5, 1), 0);
+            stage.x.pay(1, 1);
+            stage.x.pay(2, 1);
+            Stage.due("2 > " + n, stage.x.would(2, 5, 1), 2 > n ? 1 : 0);
+            for (int t = 0; t < 6; t++) {
+                Stage.due(t + " held < " + n, stage.x.would(1, t, 0), Math.min(3, t) < n ? 1 : 0);
+                Stage.due(t + " held = " + n, stage.x.would(1, t, 1), Math.min(3, t) == n ? 1 : 0);
+            }
+            compared("self = " + n, 1 == n);
+            compared("self < " + n, 1 < n);
+            compared("self > " + n, 1 > n);
+        }
+    }
+
+    /** Whether a law holds for a seat that claps. */
+    private static void compared(String one, boolean due) {
+        Stage seat = Stage.of("row a;up a self = 0;down a " + one + ";");
+        Stage.due("would of one who claps: " + one, seat.x.would(0, 1, 1), due ? 1 : 0);
+    }
+
+    private static void deepest() {
+        holds("not ".repeat(7) + "self = 0", 0);
+        holds("not ".repeat(7) + "self = 1", 1);
+        holds("(".repeat(7) + "self = 0" + ")".repeat(7), 1);
+        holds("(".repeat(7) + "self = 1 or self = 0" + ")".repeat(7), 1);
+        holds("(".repeat(7) + "self = 1" + ")".repeat(7), 0);
+        holds("self = 1" + " or self = 1".repeat(18) + " or self = 0", 1);
+        holds("self = 0" + " and self = 0".repeat(18) + " and self = 1", 0);
+        holds("(".repeat(7) + "self = 1) or self = 0) and self = 1) or self = 0) and self = 1) or self = 0) and self = 0)", 1);
+        Stage stage = Stage.of("row f;up f self > 9;down f self = 2" + " and self = 2".repeat(19) + ";paid 0;");
+        stage.x.pay(0, 1);
+        levels("the last law's last ONE", stage.x, 0, 0, 2, 1, 1);
     }
 
     private static void levels(String what, HouseClaps x, int s, int of, int... due) {
