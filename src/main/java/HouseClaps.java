@@ -54,7 +54,7 @@ public final class HouseClaps {
     private final Tokens tokens = new Tokens(tape);
     private final HouseText houseText = new HouseText(tokens, draft.house);
     private final CueText cueText = new CueText(tokens, now.house, draft);
-    private final Record record = new Record(now);
+    private final Diary diary = new Diary(now);
     private final Trials trials = new Trials(now, tape);
     private int fault;
     private int arrangedTimes;
@@ -87,14 +87,18 @@ public final class HouseClaps {
     public int house() {
         draft.clear();
         tokens.open(tape.take(), HOUSE_BYTES);
-        int lines = houseText.readLines();
+        houseText.open();
+        int lines = 0;
+        while (lines < HOUSE_BYTES && tokens.kind != Tokens.END && houseText.readLine()) {
+            lines++;
+        }
         fault = tokens.fault;
         if (fault != 0) {
             return -1 - tokens.place;
         }
         draft.house.survey();
         now.takeAll(draft);
-        record.forget();
+        diary.forget();
         return lines;
     }
 
@@ -132,7 +136,7 @@ public final class HouseClaps {
             return false;
         }
         now.paid = withBit(now.paid, s, is);
-        record.forget();
+        diary.forget();
         return true;
     }
 
@@ -141,7 +145,7 @@ public final class HouseClaps {
             return false;
         }
         now.hissing = withBit(now.hissing, s, is);
-        record.forget();
+        diary.forget();
         return true;
     }
 
@@ -153,7 +157,7 @@ public final class HouseClaps {
             return -1 - tokens.place;
         }
         now.takeCues(draft);
-        record.forget();
+        diary.forget();
         return now.cueCount;
     }
 
@@ -174,8 +178,8 @@ public final class HouseClaps {
         if (area < 0 || area >= AREAS || level < 1 || level > 2) {
             return NONE;
         }
-        int m = record.reach(t);
-        long those = level == 1 ? record.claps[m] : record.stands[m];
+        int m = diary.reach(t);
+        long those = level == 1 ? diary.claps[m] : diary.stands[m];
         return Long.bitCount(those & now.house.areas[area * CELLS + s]);
     }
 
@@ -183,11 +187,11 @@ public final class HouseClaps {
         if (!now.house.isSeat(s) || !isMoment(t) || what < 0 || what > 1) {
             return NONE;
         }
-        int m = record.reach(t);
+        int m = diary.reach(t);
         if (what == 0) {
-            return bitOf(record.claps[m], s) + bitOf(record.stands[m], s);
+            return bitOf(diary.claps[m], s) + bitOf(diary.stands[m], s);
         }
-        return bitOf(record.heldLow[m], s) + 2 * bitOf(record.heldHigh[m], s);
+        return bitOf(diary.heldLow[m], s) + 2 * bitOf(diary.heldHigh[m], s);
     }
 
     public int many(int t, int level) {
@@ -197,8 +201,8 @@ public final class HouseClaps {
         if (level == 0) {
             return Long.bitCount(now.house.seats);
         }
-        int m = record.reach(t);
-        return Long.bitCount(level == 1 ? record.claps[m] : record.stands[m]);
+        int m = diary.reach(t);
+        return Long.bitCount(level == 1 ? diary.claps[m] : diary.stands[m]);
     }
 
     public int would(int s, int t, int what) {
@@ -209,7 +213,7 @@ public final class HouseClaps {
         if (now.house.told[law] == NONE) {
             return NONE;
         }
-        trials.night.beAs(record, record.reach(t));
+        trials.night.beAs(diary, diary.reach(t));
         return trials.night.doesHold(law, s) ? 1 : 0;
     }
 
@@ -218,11 +222,11 @@ public final class HouseClaps {
             return NONE;
         }
         for (int t = 0; t <= LAST_MOMENT; t++) {
-            int m = record.reach(t);
+            int m = diary.reach(t);
             if (m < t) {
                 return NONE;
             }
-            if (bitOf(record.stands[m], s) == 1) {
+            if (bitOf(diary.stands[m], s) == 1) {
                 return t;
             }
         }
@@ -235,16 +239,16 @@ public final class HouseClaps {
         }
         trials.night.begin(0L, now.hissing);
         trials.night.goTo(t);
-        return Long.bitCount(record.stands[record.reach(t)] & trials.night.stands);
+        return Long.bitCount(diary.stands[diary.reach(t)] & trials.night.stands);
     }
 
     public int up() {
         for (int t = 0; t <= LAST_MOMENT; t++) {
-            int m = record.reach(t);
+            int m = diary.reach(t);
             if (m < t) {
                 return NONE;
             }
-            if (record.isUp(m)) {
+            if (diary.isUp(m)) {
                 return t;
             }
         }
@@ -258,11 +262,11 @@ public final class HouseClaps {
         int calls = 0;
         boolean wasUp = false;
         for (int each = 0; each <= t; each++) {
-            int m = record.reach(each);
+            int m = diary.reach(each);
             if (m < each) {
                 return calls;
             }
-            boolean isUp = record.isUp(m);
+            boolean isUp = diary.isUp(m);
             if (isUp && !wasUp) {
                 calls++;
             }
@@ -276,7 +280,7 @@ public final class HouseClaps {
             return NONE;
         }
         for (int m = now.againFrom(); m < LAST_MOMENT; m++) {
-            int later = record.likeBehind(m);
+            int later = diary.likeBehind(m);
             if (later != NONE) {
                 return what == 0 ? m : later - m;
             }
@@ -288,7 +292,7 @@ public final class HouseClaps {
         if (what < 0 || what > 1) {
             return NONE;
         }
-        int height = record.height();
+        int height = diary.height();
         if (what == 1) {
             return height;
         }
@@ -384,7 +388,7 @@ public final class HouseClaps {
     }
 
     public int exchanged() {
-        if (isLarge() || carries(0) == 1) {
+        if (isLarge() || diary.height() >= now.house.carry) {
             return NONE;
         }
         int pair = trials.firstPairAbove(now.house.carry - 1);
@@ -396,7 +400,7 @@ public final class HouseClaps {
             return false;
         }
         now.house.exchangeKinds(a, b);
-        record.forget();
+        diary.forget();
         return true;
     }
 
@@ -436,7 +440,7 @@ public final class HouseClaps {
             left = withoutNth(left, (x >>> 8) % (all - i));
         }
         now.paid = now.house.seats & ~left;
-        record.forget();
+        diary.forget();
         return true;
     }
 
@@ -444,7 +448,7 @@ public final class HouseClaps {
         if (isLarge()) {
             return NONE;
         }
-        int height = record.height();
+        int height = diary.height();
         int times = 0;
         while (times < ARRANGED_TIMES) {
             int pair = trials.firstPairAbove(height);
@@ -456,7 +460,7 @@ public final class HouseClaps {
             times++;
         }
         arrangedTimes = times;
-        record.forget();
+        diary.forget();
         return height;
     }
 
@@ -480,7 +484,7 @@ public final class HouseClaps {
             return false;
         }
         now.takeAll(kept[k]);
-        record.forget();
+        diary.forget();
         return true;
     }
 
@@ -569,7 +573,8 @@ public final class HouseClaps {
 
         final int[] bytes;
         int length;
-        int limit;
+        /** Where the text ends or is too long: no TOKEN begins there or behind. */
+        int edge;
         int kind;
         int place;
         int stop;
@@ -581,9 +586,9 @@ public final class HouseClaps {
             bytes = tape.bytes;
         }
 
-        void open(int textLength, int textLimit) {
+        void open(int textLength, int limit) {
             length = Math.min(textLength, bytes.length);
-            limit = textLimit;
+            edge = Math.min(length, limit);
             stop = 0;
             fault = 0;
             read();
@@ -591,39 +596,34 @@ public final class HouseClaps {
 
         /** On to the next TOKEN; other kinds than those named above are the sign itself. */
         void read() {
-            int edge = Math.min(length, limit);
             while (stop < length && (bytes[stop] == ' ' || bytes[stop] == '\n')) {
                 stop++;
             }
-            place = Math.min(stop, edge);
             if (stop >= edge) {
-                kind = length > limit ? NO_TOKEN : END;
+                place = edge;
+                kind = length > edge ? NO_TOKEN : END;
                 return;
             }
-            int sign = bytes[stop];
-            if (isLetter(sign) || isDigit(sign)) {
-                readRun();
-                return;
-            }
-            stop++;
-            boolean known = sign == ';' || sign == '(' || sign == ')' || isCompare(sign);
-            kind = known ? sign : NO_TOKEN;
-        }
-
-        private void readRun() {
+            place = stop;
             int letters = 0;
             int digits = 0;
             value = 0;
-            while (stop < length && (isLetter(bytes[stop]) || isDigit(bytes[stop]))) {
-                if (isLetter(bytes[stop])) {
+            int sign = bytes[stop];
+            while (stop < length && (sign >= 'a' && sign <= 'z' || sign >= '0' && sign <= '9')) {
+                if (sign >= 'a') {
                     letters++;
                 } else {
                     digits++;
-                    value = value * 10 + bytes[stop] - '0';
+                    value = value * 10 + sign - '0';
                 }
                 stop++;
+                sign = stop < length ? bytes[stop] : ' ';
             }
-            if (digits == 0) {
+            if (letters + digits == 0) {
+                stop++;
+                boolean known = sign == ';' || sign == '(' || sign == ')' || sign >= '<' && sign <= '>';
+                kind = known ? sign : NO_TOKEN;
+            } else if (digits == 0) {
                 kind = letters <= WORD_SIZE ? WORD : NO_TOKEN;
             } else {
                 kind = letters == 0 && digits <= 3 ? NUMBER : NO_TOKEN;
@@ -636,7 +636,7 @@ public final class HouseClaps {
 
         /** A sign of the TOKEN that stands here; a blank behind it. */
         int sign(int i) {
-            return i >= 0 && i < size() && place + i < bytes.length ? bytes[place + i] : ' ';
+            return i >= 0 && place + i < stop && place + i < bytes.length ? bytes[place + i] : ' ';
         }
 
         /** Which word of a table stands here; NONE: none of them. */
@@ -669,9 +669,11 @@ public final class HouseClaps {
         /** Stays at the NUMBER, because a caller may still find another FAULT in it. */
         boolean isNumberWithin(int least, int most) {
             if (kind != NUMBER) {
-                return fail(1);
+                fault = 1;
+            } else if (value < least || value > most) {
+                fault = 2;
             }
-            return value >= least && value <= most || fail(2);
+            return fault == 0;
         }
 
         /** Goes on behind the NUMBER, which stays in taken. */
@@ -691,18 +693,6 @@ public final class HouseClaps {
             read();
             return true;
         }
-
-        static boolean isLetter(int sign) {
-            return sign >= 'a' && sign <= 'z';
-        }
-
-        static boolean isDigit(int sign) {
-            return sign >= '0' && sign <= '9';
-        }
-
-        static boolean isCompare(int sign) {
-            return sign >= '<' && sign <= '>';
-        }
     }
 
     /** Reads a HOUSE into a cleared one. */
@@ -721,43 +711,43 @@ public final class HouseClaps {
             this.house = house;
         }
 
-        /** How many LINES were read ahead of the end or of a FAULT. */
-        int readLines() {
+        void open() {
             pricesTold = 0;
             carryTold = false;
             paidTold = false;
-            int lines = 0;
-            while (lines < HOUSE_BYTES && tokens.kind != Tokens.END && readLine()) {
-                lines++;
-            }
-            return lines;
         }
 
-        private boolean readLine() {
-            return readLineBody(tokens.among(LINE_WORDS)) && tokens.pass(';');
-        }
-
-        private boolean readLineBody(int word) {
-            switch (word) {
+        boolean readLine() {
+            boolean read;
+            switch (tokens.among(LINE_WORDS)) {
                 case 0:
-                    return readRow();
+                    read = readRow();
+                    break;
                 case 1:
-                    return readLaw(0);
+                    read = readLaw(0);
+                    break;
                 case 2:
-                    return readLaw(1);
+                    read = readLaw(1);
+                    break;
                 case 3:
-                    return readPrice();
+                    read = readPrice();
+                    break;
                 case 4:
-                    return readLeaves();
+                    read = readLeaves();
+                    break;
                 case 5:
-                    return readCarry();
+                    read = readCarry();
+                    break;
                 case 6:
-                    return readPaid();
+                    read = readPaid();
+                    break;
                 case 7:
-                    return readRowByRow();
+                    read = readRowByRow();
+                    break;
                 default:
-                    return tokens.fail(1);
+                    read = tokens.fail(1);
             }
+            return read && tokens.pass(';');
         }
 
         private boolean readRow() {
@@ -866,7 +856,7 @@ public final class HouseClaps {
                 }
                 compared = tokens.taken << House.LEVEL_SHIFT;
             }
-            if (!Tokens.isCompare(tokens.kind)) {
+            if (tokens.kind < '<' || tokens.kind > '>') {
                 return tokens.fail(1);
             }
             compared |= tokens.kind - '<' << House.SIGN_SHIFT;
@@ -1241,12 +1231,12 @@ public final class HouseClaps {
             this.house = evening.house;
         }
 
-        /** Takes the people of a recorded moment, to ask what they would do. */
-        void beAs(Record record, int m) {
-            claps = record.claps[m];
-            stands = record.stands[m];
-            heldLow = record.heldLow[m];
-            heldHigh = record.heldHigh[m];
+        /** Takes the people of a kept moment, to ask what they would do. */
+        void beAs(Diary diary, int m) {
+            claps = diary.claps[m];
+            stands = diary.stands[m];
+            heldLow = diary.heldLow[m];
+            heldHigh = diary.heldHigh[m];
         }
 
         boolean doesHold(int law, int s) {
@@ -1386,6 +1376,7 @@ public final class HouseClaps {
             return any | all;
         }
 
+        /** Those of some SEATS for whom one ONE holds. */
         private long holding(int i, long who, int depth) {
             if (who == 0L || depth > WITHIN || i < 0 || i >= house.ones.length) {
                 return 0L;
@@ -1409,15 +1400,11 @@ public final class HouseClaps {
                 return who & heldWithin(least, most);
             }
             long level = (one >>> House.LEVEL_SHIFT & 3) == 1 ? claps : stands;
-            return perceiving(what * CELLS, level, who, least, most);
-        }
-
-        private long perceiving(int area, long level, long who, int least, int most) {
             long holds = 0L;
             long rest = who;
-            for (int s = 0; s < CELLS && rest != 0L; s++) {
+            for (int s = 0; s < CELLS && what < AREAS && rest != 0L; s++) {
                 if ((rest & 1L) != 0L) {
-                    int many = Long.bitCount(house.areas[area + s] & level);
+                    int many = Long.bitCount(house.areas[what * CELLS + s] & level);
                     if (many >= least && many <= most) {
                         holds |= 1L << s;
                     }
@@ -1444,7 +1431,7 @@ public final class HouseClaps {
     }
 
     /** The NIGHT as it is now, its moments kept as far as they were asked for. */
-    private static final class Record {
+    private static final class Diary {
         final Evening evening;
         final Night night;
         final long[] claps = new long[LAST_MOMENT + 1];
@@ -1453,7 +1440,7 @@ public final class HouseClaps {
         final long[] heldHigh = new long[LAST_MOMENT + 1];
         int known;
 
-        Record(Evening evening) {
+        Diary(Evening evening) {
             this.evening = evening;
             night = new Night(evening);
         }
@@ -1699,8 +1686,11 @@ public final class HouseClaps {
             for (int i = 1; i <= first; i++) {
                 int least = CELLS;
                 for (int j = first + 1; j < n; j++) {
-                    heights[i * SIDE + j - first] = sideHeight(bytes[i], bytes[j]);
-                    least = Math.min(least, heights[i * SIDE + j - first]);
+                    long paid = evening.paid | 1L << bytes[i];
+                    long hissing = evening.hissing | 1L << bytes[j];
+                    int height = night.heightOf(paid, hissing, CELLS);
+                    heights[i * SIDE + j - first] = height;
+                    least = Math.min(least, height);
                 }
                 if (least > sure) {
                     sure = least;
@@ -1719,12 +1709,6 @@ public final class HouseClaps {
                 }
             }
             return sure;
-        }
-
-        private int sideHeight(int payee, int hisser) {
-            long paid = evening.paid | 1L << payee;
-            long hissing = evening.hissing | 1L << hisser;
-            return night.heightOf(paid, hissing, CELLS);
         }
 
         boolean readSketch(int n) {
@@ -1749,22 +1733,22 @@ public final class HouseClaps {
             beganFirst = NONE;
             beganSecond = NONE;
             for (int a = 0; a < CELLS; a++) {
-                for (int b = a; b < CELLS; b++) {
-                    if (evening.house.isSeat(a) && evening.house.isSeat(b) && isSketched(a, b, t)) {
-                        if (many == 0) {
-                            beganFirst = a;
-                            beganSecond = b == a ? NONE : b;
+                for (int b = a; b < CELLS && evening.house.isSeat(a); b++) {
+                    if (evening.house.isSeat(b)) {
+                        night.begin(1L << a | 1L << b, evening.hissing);
+                        night.goTo(t);
+                        if (isAsSketched()) {
+                            beganFirst = many == 0 ? a : beganFirst;
+                            beganSecond = many == 0 && b != a ? b : beganSecond;
+                            many++;
                         }
-                        many++;
                     }
                 }
             }
             return many;
         }
 
-        private boolean isSketched(int a, int b, int t) {
-            night.begin(1L << a | 1L << b, evening.hissing);
-            night.goTo(t);
+        private boolean isAsSketched() {
             return (night.claps & sketched) == sketchClaps && (night.stands & sketched) == sketchStands;
         }
 
