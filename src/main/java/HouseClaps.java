@@ -1558,19 +1558,11 @@ public final class HouseClaps {
             return seats;
         }
 
-        private int priceOfPaid() {
-            int price = 0;
-            for (int s = 0; s < CELLS; s++) {
-                price += bitOf(evening.paid, s) * evening.house.priceOf(s);
-            }
-            return price;
-        }
-
-        /** What a set costs besides those that are PAID already: none is bought twice. */
-        private int priceBesides(int set, int n) {
+        /** The prices of the set's own SEATS, also of those that are PAID already. */
+        private int priceOfSet(int set, int n) {
             int price = 0;
             for (int i = 0; i < n; i++) {
-                if ((set >>> i & 1) != 0 && bitOf(evening.paid, bytes[i]) == 0) {
+                if ((set >>> i & 1) != 0) {
                     price += evening.house.priceOf(bytes[i]);
                 }
             }
@@ -1580,10 +1572,10 @@ public final class HouseClaps {
         int cheapestOf(int n) {
             int carry = evening.house.carry;
             int best = NONE;
-            int bestPrice = 0;
+            int bestPrice = NONE;
             for (int set = 0; set < 1 << n; set++) {
                 long paid = evening.paid | seatsOf(set, n);
-                int price = priceBesides(set, n);
+                int price = priceOfSet(set, n);
                 boolean better = best == NONE || price < bestPrice
                         || price == bestPrice && Integer.bitCount(set) < Integer.bitCount(best);
                 if (better && night.heightOf(paid, evening.hissing, carry) >= carry) {
@@ -1591,11 +1583,10 @@ public final class HouseClaps {
                     bestPrice = price;
                 }
             }
-            if (best == NONE) {
-                return NONE;
+            if (best != NONE) {
+                bought = best;
             }
-            bought = best;
-            return priceOfPaid() + bestPrice;
+            return bestPrice;
         }
 
         int hushOf(int n) {

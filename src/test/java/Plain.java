@@ -716,8 +716,8 @@ public final class Plain {
         for (int set = 0; set < 1 << hands.size(); set++) {
             boolean[] paid = with(now.paid, hands, set);
             int price = 0;
-            for (int s : seats()) {
-                price += paid[s] ? now.price[s / columns()] : 0;
+            for (int i = 0; i < hands.size(); i++) {
+                price += (set >> i & 1) == 1 ? now.price[hands.get(i) / columns()] : 0;
             }
             int[] rank = {price, Integer.bitCount(set), set};
             if (carrying(paid, now.hissing) && (bestRank == null || Arrays.compare(rank, bestRank) < 0)) {
