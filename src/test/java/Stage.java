@@ -36,6 +36,48 @@ public final class Stage {
         }
     }
 
+    static void dueSame(String what, String got, String want) {
+        due(what + " told " + got + " ahead of it " + want, got.equals(want), true);
+    }
+
+    /** All that is held ahead of any NIGHT, and what other calls told last. */
+    String told() {
+        StringBuilder all = new StringBuilder();
+        for (int what = 0; what < 10; what++) {
+            all.append(x.count(what)).append(' ');
+        }
+        for (int s = 0; s < x.count(0) * x.count(1); s++) {
+            boolean seat = x.at(s, 0, 0) >= 0;
+            for (int what = 0; what < 5; what++) {
+                all.append(seat ? x.seat(s, what) : -9).append(' ');
+            }
+        }
+        for (int law = 0; law < 12; law++) {
+            all.append(x.law(law / 2, law % 2)).append(' ');
+        }
+        for (int cue = 0; cue < 3 * x.count(9); cue++) {
+            all.append(x.cue(cue / 3, cue % 3)).append(' ');
+        }
+        return all.append(toldLast()).toString();
+    }
+
+    /** What other calls told last: fault, bought, worthOf, side, beganAt, arranged. */
+    String toldLast() {
+        StringBuilder all = new StringBuilder("last ");
+        all.append(x.fault()).append(' ').append(x.bought()).append(' ').append(x.arranged()).append(' ');
+        for (int what = 0; what < 3; what++) {
+            all.append(x.side(what)).append(' ').append(x.beganAt(what)).append(' ');
+        }
+        for (int i = 0; i < 8; i++) {
+            try {
+                all.append(x.worthOf(i, 0)).append('/').append(x.worthOf(i, 1)).append(' ');
+            } catch (NoSuchElementException e) {
+                all.append("- ");
+            }
+        }
+        return all.toString();
+    }
+
     /** Ends the test: with 1, if an answer was not due. */
     static void close(String name) {
         System.out.println(name + ": " + asked + " answers, " + wrong + " not as due");
