@@ -26,6 +26,7 @@ public final class NightEdgesTest {
         twoAtMost();
         zeroAtLeast();
         elseDown();
+        signsAtTheEnds();
         heldBeginsAgain();
         deepestLawsInANight();
         rowByRowFromTheFirst();
@@ -286,6 +287,22 @@ public final class NightEdgesTest {
         heldOf("down for good", x, 0, 0, 0, 0, 1, 2, 3, 3);
     }
 
+    /** Nothing is below 0, and nothing above 999. */
+    private static void signsAtTheEnds() {
+        for (String what : new String[] {"self", "held", "near 1", "seen 2", "house 1"}) {
+            HouseClaps x = houseOf("row ab;up a " + what + "<0;up b not " + what + "<0;");
+            Stage.due(what + " is not below 0", x.would(0, 0, 0), 0);
+            Stage.due(what + " is not below 0, not", x.would(1, 0, 0), 1);
+            Stage.due(what + " below 0 lifts nobody", x.at(0, 5, 0), 0);
+            HouseClaps y = houseOf("row ab;up a " + what + ">999;up b " + what + "<999;");
+            Stage.due(what + " is not above 999", y.would(0, 0, 0), 0);
+            Stage.due(what + " is below 999", y.would(1, 0, 0), 1);
+            HouseClaps z = houseOf("row ab;up a " + what + "=0;up b " + what + ">0;");
+            Stage.due(what + " is 0 at first", z.would(0, 0, 0), 1);
+            Stage.due(what + " is not above 0 at first", z.would(1, 0, 0), 0);
+        }
+    }
+
     /** Down is of no matter where up holds, also for one who stands already. */
     private static void elseDown() {
         HouseClaps both = houseOf("row a;up a self<9;down a self<9;");
@@ -486,6 +503,10 @@ public final class NightEdgesTest {
         Stage stage = Stage.of("row a;leaves 0 3;");
         stage.cues("at 4 pay 0 0;");
         levels("PAID behind leaving", stage.x, 0, 0, 0, 0, 0, 0, 0);
+        HouseClaps three = houseOf("row a;row a;row a;up a self<9;leaves 0 2;leaves 1 4;leaves 2 4;");
+        levels("left in 2, for good", three, 0, 0, 1, 0, 0, 0, 0, 0, 0);
+        levels("left in 4, for good", three, 1, 0, 1, 2, 2, 0, 0, 0, 0);
+        levels("left in 4 with another row", three, 2, 0, 1, 2, 2, 0, 0, 0, 0);
     }
 
     private static void leavesAtOnce() {

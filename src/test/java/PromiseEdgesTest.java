@@ -440,6 +440,8 @@ public final class PromiseEdgesTest {
         Stage.due("never", stage.x.stands(3), NONE);
         stage.house("row a;up a self<1;");
         Stage.due("claps alone", stage.x.stands(0), NONE);
+        stage.house("row a;up a self<1;down a self=1;");
+        Stage.due("to and fro between still and clapping", stage.x.stands(0), NONE);
     }
 
     private static void promise17Anyway() {
@@ -467,6 +469,8 @@ public final class PromiseEdgesTest {
         Stage.due("in 0", stage.x.up(), 0);
         stage.house("row x;");
         Stage.due("pillars never", stage.x.up(), NONE);
+        stage.house("row a;up a self<1;down a self=1;");
+        Stage.due("to and fro between still and clapping", stage.x.up(), NONE);
     }
 
     private static void promise19Calls() {

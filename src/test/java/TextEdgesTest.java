@@ -100,6 +100,14 @@ public final class TextEdgesTest {
         Stage.dueFault("up a near 1>0or self>0;", 1, 12);
         dueLines("up a near 1>0 or self>0;", 1);
         Stage.dueFault("up a self>0and self>0;", 1, 10);
+        for (String mixed : new String[] {"a1", "1a", "ab12", "a1b2", "12ab", "a12", "ab1"}) {
+            int n = mixed.length();
+            Stage.dueFault("rows " + mixed + ";", 1, 5);
+            Stage.dueFault("up a self " + mixed + ">0;", 1, 10);
+            Stage.dueFault("up a " + mixed + "(self>0);", 1, 5);
+            Stage.dueFault("up a (self>0 " + mixed + ");", 1, 13);
+            Stage.dueFault(mixed + " ".repeat(5 - n), 1, 0);
+        }
     }
 
     /** No byte but small letters, digits, blanks and the six signs is part of a TOKEN. */
@@ -226,6 +234,10 @@ public final class TextEdgesTest {
         Stage.dueFault("up ab self>0;", 2, 3);
         Stage.dueFault("up self>0;", 2, 3);
         Stage.dueFault("up 0 self>0;", 1, 3);
+        Stage.dueFault("up ;", 1, 3);
+        Stage.dueFault("down ;", 1, 5);
+        Stage.dueFault("up a;", 1, 4);
+        Stage.dueFault("down a;", 1, 6);
         Stage.dueFault("up (self>0);", 1, 3);
     }
 
@@ -284,6 +296,8 @@ public final class TextEdgesTest {
         Stage.dueFault("row a;row a;price 1 5;price 1 5;", 3, 28);
         Stage.dueFault("row a;row a;price 0 10;price 0 10;", 3, 29);
         Stage.dueFault("row a;price 0 5;price 0", 3, 22);
+        Stage.dueFault("row a;row a;price 0 5;price 1 5;price 0 5;", 3, 38);
+        Stage.dueFault("row a;row a;price 1 5;price 0 5;price 1 5;", 3, 38);
         dueLines("row a;price 0 5;leaves 0 5;", 3);
     }
 
@@ -311,6 +325,7 @@ public final class TextEdgesTest {
     private static void leavesOnce() {
         dueLines("row a;row a;leaves 1 5;leaves 0 5;", 4);
         Stage.dueFault("row a;leaves 0 0;leaves 0 0;", 3, 24);
+        Stage.dueFault("row a;row a;leaves 0 5;leaves 1 5;leaves 0 5;", 3, 41);
         Stage.dueFault("row a;row a;leaves 1 600;leaves 1 600;", 3, 32);
     }
 
@@ -571,5 +586,12 @@ public final class TextEdgesTest {
         Stage.dueFault("carry 1;" + " ".repeat(891) + "carry 1;", 3, 899);
         Stage.dueFault("carry 1;" + " ".repeat(892) + "carry 1;", 1, 900);
         Stage.dueFault("row a;".repeat(8) + " ".repeat(851) + "row a;", 4, 899);
+        Stage.dueFault(" ".repeat(899) + "a".repeat(41), 1, 899);
+        Stage.dueFault(" ".repeat(893) + "carry " + "1".repeat(41), 1, 899);
+        Stage.dueFault("a".repeat(940), 1, 0);
+        Stage.dueFault(" ".repeat(900) + "a".repeat(40), 1, 900);
+        Stage full = Stage.of("row a;");
+        full.dueCueFault(" ".repeat(399) + "a".repeat(541), 1, 399);
+        full.dueCueFault(" ".repeat(396) + "at " + "1".repeat(541), 1, 399);
     }
 }

@@ -13,6 +13,7 @@ public final class TrialEdgesTest {
     public static void main(String[] args) {
         carriesInMoments0To60();
         heightTheMostInOneMoment();
+        whoClapsDoesNotStand();
         cheapestOf1To8();
         cheapestBesidesThoseThatArePaid();
         cheapestFewestThenLeast();
@@ -82,6 +83,24 @@ public final class TrialEdgesTest {
         Stage.due("HEIGHT of an empty HOUSE", new HouseClaps().carries(1), 0);
     }
 
+    /** The most that stand: who claps is none of them, whoever asks. */
+    private static void whoClapsDoesNotStand() {
+        Stage stage = Stage.of("row abbb;up b self<1;carry 2;");
+        stage.x.pay(0, 1);
+        Stage.due("all clap or stand", stage.x.many(1, 1), 4);
+        Stage.due("HEIGHT", stage.x.carries(1), 1);
+        Stage.due("CARRIES", stage.x.carries(0), 0);
+        Stage.due("STARTS", stage.x.starts(0), 1);
+        Stage.due("LEADER's STARTS", stage.x.leader(1), 1);
+        Stage.due("WORTH", stage.tape(0, 1).x.worth(), 2);
+        Stage.due("CHEAPEST", stage.tape(1, 2).x.cheapest(), 10);
+        Stage.due("HUSH", stage.tape(0, 1).x.hush(), 0);
+        Stage.due("COALITIONS", stage.tape(1, 2).x.coalitions(NONE), 2);
+        Stage.due("SIDES", stage.tape(1, 1, 2).x.sides(), 2);
+        Stage.due("EXCHANGED", stage.x.exchanged(), NONE);
+        Stage.due("ARRANGED", stage.x.arrange(), 1);
+    }
+
     private static void cheapestOf1To8() {
         Stage stage = Stage.of("row aaaaaaaa;row aaaaaaaa;");
         Stage.due("none", stage.tape().x.cheapest(), -2);
@@ -120,6 +139,11 @@ public final class TrialEdgesTest {
         stage.house("row aab;row xxc;price 0 5;price 1 10;up b behind 2>0;carry 2;");
         Stage.due("two for 5 each or one for 10", stage.tape(0, 1, 5).x.cheapest(), 10);
         Stage.due("the one", stage.x.bought(), 4);
+        stage.house("row aab;row xxc;price 0 5;price 1 11;up b behind 2>0;carry 2;");
+        Stage.due("two for less than one", stage.tape(0, 1, 5).x.cheapest(), 10);
+        Stage.due("the two", stage.x.bought(), 3);
+        Stage.due("two for less than one, told behind it", stage.tape(5, 0, 1).x.cheapest(), 10);
+        Stage.due("the two behind it", stage.x.bought(), 6);
         stage.house("row aaa;price 0 0;carry 2;");
         Stage.due("all for nothing", stage.tape(0, 1, 2).x.cheapest(), 0);
         Stage.due("the fewest for nothing, and the least", stage.x.bought(), 3);
@@ -448,6 +472,13 @@ public final class TrialEdgesTest {
         Stage.due("neither who is PAID nor who stands not", stage.x.anyway(2), 1);
         Stage.due("moment 0", stage.x.anyway(0), 0);
         Stage.due("of an empty HOUSE", new HouseClaps().anyway(600), 0);
+        stage.house("row abc;up b house 2>0 or self<1;");
+        stage.x.pay(0, 1);
+        Stage.due("stands with hands, claps without: none", stage.x.anyway(2), 0);
+        stage.house("row abc;up b house 2<1 or self<1;");
+        stage.x.pay(0, 1);
+        Stage.due("claps with hands", stage.x.at(1, 2, 0), 1);
+        Stage.due("claps with hands, stands without: none", stage.x.anyway(2), 0);
     }
 
     /** Of like ones the least price, then the first. */
@@ -463,6 +494,11 @@ public final class TrialEdgesTest {
         Stage.due("its STARTS", stage.x.leader(1), 2);
         stage.house("row xx;row xa;");
         Stage.due("one SEAT", stage.x.leader(0), 3);
+        stage.house("row ax;row xx;price 1 0;");
+        Stage.due("a pillar for nothing is none", stage.x.leader(0), 0);
+        stage.house("row xx;row xx;price 1 0;");
+        Stage.due("pillars for nothing are none", stage.x.leader(0), NONE);
+        Stage.due("and start nothing", stage.x.leader(1), NONE);
     }
 
     /** x * 1103515245 + 12345 (an int, wrapping), the draw is (x >>> 8) % n. */
